@@ -1288,7 +1288,7 @@ public final class BlindFiddles {
             return 0;
         }
 
-        /** The greatest or least LIKING with SETTINGS of t. */
+        /** The greatest or least LIKING with SETTINGS of t; bright and loud are left as they were put last. */
         int extreme(Told told, int law, int t, boolean most) {
             int bright = vars[VAR_SOUNDS];
             int loud = vars[VAR_SOUNDS + 1];
@@ -1304,8 +1304,6 @@ public final class BlindFiddles {
                     found = most ? Math.max(found, here) : Math.min(found, here);
                 }
             }
-            vars[VAR_SOUNDS] = bright;
-            vars[VAR_SOUNDS + 1] = loud;
             return found;
         }
 
@@ -1588,7 +1586,6 @@ public final class BlindFiddles {
 
         void gather(Told told, Known known) {
             olds = 0;
-            news = 0;
             many = 0;
             common = 1;
             for (int fiddle = 0; fiddle < told.fiddles; fiddle++) {

@@ -341,6 +341,8 @@ public final class OracleTest {
         int style = random.nextInt(3);
         if (large && one(2)) {
             inTurn(style);
+        } else if (one(6)) {
+            guessesInTurn();
         }
         while (calls.size() < 505 - 130 && wrong == 0) {
             step(style);
@@ -367,6 +369,24 @@ public final class OracleTest {
             int spot = from(0, 5);
             due("mark(" + person + ", " + fiddle + ", " + value + ", " + spot + ", " + seen + ")",
                     it.mark(person, fiddle, value, spot, seen), oracle.mark(person, fiddle, value, spot, seen));
+        }
+    }
+
+    /** About as many GUESSES as THE COIN and THE TABLE can bear. */
+    private void guessesInTurn() {
+        int many = from(50, 64);
+        for (int i = 0; i < many; i++) {
+            int person = of(oracle.people.size());
+            int fiddle = of(oracle.fiddles.size());
+            boolean old = one(2);
+            due("guess(" + person + ", " + fiddle + ", " + old + ")",
+                    it.guess(person, fiddle, old), oracle.guess(person, fiddle, old));
+        }
+        for (int n = oracle.facts.size(); n >= 0 && n > oracle.facts.size() - 6; n--) {
+            due("coin(" + n + ", true)", it.coin(n, true), oracle.coin(n, true));
+            due("coin(" + n + ", false)", it.coin(n, false), oracle.coin(n, false));
+            due("table(" + n + ", true)", it.table(n, true), oracle.table(n, true));
+            due("table(" + n + ", false)", it.table(n, false), oracle.table(n, false));
         }
     }
 

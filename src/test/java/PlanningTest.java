@@ -46,6 +46,8 @@ public final class PlanningTest {
         isNeed(20, 2, 2, 3, 28, 19);
         isNeed(40, 5, 3, 4, 30, 21);
         isNeed(20, 20, 3, 4, -2, -2);
+        // 31 tries would do
+        isNeed(23, 7, 3, 4, -2, -2);
         isNeed(20, 3, 2, 3, -2, -2);
         // 64 bits would not hold v times 4 to the 30
         isNeed(1000, 1000, 3, 4, -2, -2);

@@ -9,6 +9,8 @@ public final class ReadingTest {
         laterFaults();
         order();
         replacing();
+        leftovers();
+        alikeNames();
         toldFiddles();
         toldPeople();
         toldSittings();
@@ -307,6 +309,59 @@ public final class ReadingTest {
         Due.due(4, "say(1) of a player", x.say(1), 64);
         Due.due(4, "read()", Due.tell(x, "fiddle a old 1 1 1; fiddle b new 1 1 1; player p 1 1 1 1;"), 0);
         Due.due(4, "say(1) of a new one", x.say(1), 128);
+    }
+
+    /** Nothing of a text ahead is left, neither on the tape nor in what is told. */
+    private static void leftovers() {
+        BlindFiddles x = new BlindFiddles();
+        String[] whole = {"law lxyzxyzxyz", "law l=12345", "law l==", "law l =1;bow x"};
+        int[] gone = {9, 4, 1, 5};
+        int[] places = {5, 7, 6, -1};
+        for (int i = 0; i < whole.length; i++) {
+            Due.feed(x, whole[i]);
+            x.back(gone[i]);
+            Due.due(4, "read() of what is left of " + whole[i], x.read(), places[i] < 0 ? 0 : 1);
+            Due.due(5, "place() of what is left of " + whole[i], x.place(), places[i]);
+        }
+        String full = "fiddle a old 1 1 1 barred;fiddle b old 1 1 1;player p 1 1 1 1;hearer q 1 1 1 1;bow w 0 0 0;"
+                + "bow v 0 0 0;law l=bright;law m=1;plan x{sit p with w seen:a,b;sit p with w:b,a;sit p with w:a;}"
+                + "plan y{sit p with v:a;}";
+        String little = "fiddle a new 1 1 1;player p 1 1 1 1;bow w 0 0 0;law l=7;plan x{sit p with w:a;}";
+        for (int i = 0; i < 2; i++) {
+            Due.tell(x, full);
+        }
+        for (int i = 0; i < 2; i++) {
+            Due.due(4, "read() of " + little, Due.tell(x, little), 0);
+            for (int what = 0; what < 5; what++) {
+                Due.due(45, "count(" + what + ")", x.count(what), 1);
+            }
+            Due.due(45, "count(10)", x.count(10), 1);
+            Due.due(45, "count(11)", x.count(11), -1);
+            Due.due(8, "sitting(0, 0, 2)", x.sitting(0, 0, 2), 0);
+            Due.due(8, "sitting(0, 0, 3)", x.sitting(0, 0, 3), 1);
+            Due.due(6, "fiddle(0, 4)", x.fiddle(0, 4), 0);
+            Due.due(9, "liking", x.liking(0, 0, 0, 0, false, 0, 0), 7);
+            Due.due(11, "takes", x.takes(0, 0, 7, 0), 1);
+            Due.due(12, "run", x.run(0, 0, 0, 7), 2);
+            Due.due(41, "parts", x.parts(0, 0, 0, 7), 0);
+        }
+        // A text that ends within brackets, or with FAULTS 3 to 5, leaves nothing for the next.
+        Due.due(4, "read()", Due.tell(x, "law l = 1+2*[3+4*((5"), 1);
+        Due.due(4, "read()", Due.tell(x, "bow l 99 99 99;bow l 1 1 1;"), 5);
+        Due.due(4, "read()", Due.tell(x, "law l = ((((((1))))));bow k 1 1 1;"), 0);
+        Due.due(4, "read()", Due.tell(x, "law l = 1+2;bow k 1 1 1;fiddle f old 1 1 1;player p 1 1 1 1;"), 0);
+        Due.due(9, "liking", x.liking(0, 0, 0, 0, false, 0, 0), 3);
+    }
+
+    private static void alikeNames() {
+        Due.fault("bow ab 0 0 0;bow ba 0 0 0;bow a 0 0 0;bow aa 0 0 0;", 0, -1);
+        Due.fault("bow abcdefgh 0 0 0;bow abcdefgi 0 0 0;bow bbcdefgh 0 0 0;bow abcdefgh 0 0 0;", 3, 61);
+        Due.fault("bow z 0 0 0;bow zzzzzzzz 0 0 0;bow zzzzzzz 0 0 0;bow z 0 0 0;", 3, 53);
+        for (String word : Oracle.WORDS) {
+            Due.fault("bow z" + word.substring(1) + " 1 1 1;", 0, -1);
+            Due.fault("bow " + word.substring(0, word.length() - 1) + "z 1 1 1;", 0, -1);
+            Due.fault("bow " + word.substring(1) + " 1 1 1;", 0, -1);
+        }
     }
 
     private static void toldFiddles() {

@@ -163,14 +163,19 @@ public final class ReckoningTest {
         Due.due(24, "seven of eight", x.steady(16, 0), 7);
         Due.due(24, "OFF of seven", x.steady(16, 1), 28);
         Due.due(25, "all as alike", x.steadyWays(16), 5040);
-        Due.due(43, "say", x.say(16) & 16, 0);
+        Due.due(43, "say", x.say(16), 128);
         BlindFiddles y = Due.told(TEXT);
         blind(y, 0, 10, 20, 30, 40);
         blind(y, 0, 10, 20, 30, 40);
         Due.due(25, "one of 6", y.steadyWays(7), 1);
-        Due.due(43, "say of 6", y.say(7) & 16, 0);
+        Due.due(43, "say of 6", y.say(7), 64);
         Due.due(25, "one of 24", y.steadyWays(8), 1);
-        Due.due(43, "say of 24", y.say(8) & 16, 16);
+        Due.due(43, "say of 24", y.say(8), 16 + 64);
+        y.mark(0, 0, 20, 0, false);
+        y.mark(0, 0, 10, 0, false);
+        Due.due(25, "two of 24", y.steadyWays(10), 2);
+        Due.due(43, "say of two of 24", y.say(10), 64);
+        Due.due(25, "one of 24, asked again", y.steadyWays(8), 1);
         // by the player, then the FIDDLE, not by when they came
         BlindFiddles z = Due.told(TEXT);
         for (int fiddle = 7; fiddle >= 0; fiddle--) {
@@ -199,6 +204,8 @@ public final class ReckoningTest {
         Due.due(26, "D", x.kinds(n, 3), 2 * 320 - 2 * 105);
         Due.due(27, "ways", x.kindWays(n, true), 1);
         Due.due(27, "all", x.kindWays(n, false), 6);
+        Due.due(27, "ways by 1", x.kindWays(1, false), 1);
+        Due.due(27, "ways by 3", x.kindWays(3, false), 3);
         Due.due(26, "o by 1", x.kinds(1, 0), 1);
         Due.due(26, "L by 1", x.kinds(1, 2), 1);
         x.mark(2, 4, 95, 0, false);
@@ -259,6 +266,7 @@ public final class ReckoningTest {
         blind(x, 0, 10, 20, -1, -1, 5);
         blind(x, 1, 7, -1, -1, -1, -1, 8, 9);
         blind(x, 2, 90, 90);
+        blind(x, 4, -1, -1, -1, -1, 90, 90);
         blind(x, 3, -1, -1, -1, 50, -1, -1, -1, 40);
         x.mark(2, 4, 3, 0, true);
         blind(x, 7, 100, 0, 0, 0, 0, 0, 0, 0);
@@ -291,13 +299,13 @@ public final class ReckoningTest {
             x.mark(player, 4, player < 5 ? 50 : 60, 0, false);
         }
         Due.due(29, "one of 16", x.flipWays(8), 1);
-        Due.due(43, "say of 16", x.say(8) & 4, 0);
+        Due.due(43, "say of 16", x.say(8), 64);
         Due.due(29, "one of 32", x.flipWays(10), 1);
-        Due.due(43, "say of 32", x.say(10) & 4, 4);
+        Due.due(43, "say of 32", x.say(10), 4 + 64);
         // two that are 0 may be turned or not
         Due.due(29, "four of 128", x.flipWays(14), 4);
         Due.due(28, "seven", x.flips(14, 0), 7);
-        Due.due(43, "say of 4 of 128", x.say(14) & 4, 4);
+        Due.due(43, "say of 4 of 128", x.say(14), 4 + 64);
     }
 
     private static void smalls() {
@@ -347,17 +355,23 @@ public final class ReckoningTest {
         x.mark(7, 0, 0, 0, false);
         x.mark(7, 0, 100, 0, true);
         int n = at(x);
+        x.mark(6, 7, 0, 0, false);
+        x.mark(6, 7, 100, 0, true);
+        Due.due(31, "PAIRS with the last player's", x.knowing(n + 2, 0), 4);
+        Due.due(31, "new with the last player's", x.knowing(n + 2, 2), 65);
+        x.annul(n);
+        Due.due(31, "PAIRS without it", x.knowing(n + 3, 0), 3);
         Due.due(31, "PAIRS", x.knowing(n, 0), 3);
         Due.due(31, "old", x.knowing(n, 1), 20);
         Due.due(31, "new", x.knowing(n, 2), -35);
         // 20, -40, 5: turned ones not above 0: none, and all with -40
         Due.due(32, "ways", x.knowingWays(n), 5);
         x.mark(0, 0, 15, 0, false);
-        Due.due(31, "of the LAST", x.knowing(n + 1, 1), 15);
+        Due.due(31, "of the LAST", x.knowing(n + 4, 1), 15);
         for (int i : new int[] {-1, 3, MIN, MAX}) {
             Due.due(31, "what " + i, x.knowing(n, i), BAD);
         }
-        for (int i : new int[] {-1, n + 2, MIN, MAX}) {
+        for (int i : new int[] {-1, n + 5, MIN, MAX}) {
             Due.due(31, "n " + i, x.knowing(i, 0), BAD);
             Due.due(32, "n " + i, x.knowingWays(i), -1);
         }
@@ -373,11 +387,11 @@ public final class ReckoningTest {
             x.mark(pair / 8, pair % 8, pair < 12 ? 51 : 0, 0, true);
             if (pair == 3) {
                 Due.due(32, "one of 16", x.knowingWays(8), 1);
-                Due.due(43, "say of 16", x.say(8) & 8, 0);
+                Due.due(43, "say of 16", x.say(8), 0);
             }
             if (pair == 4) {
                 Due.due(32, "one of 32", x.knowingWays(10), 1);
-                Due.due(43, "say of 32", x.say(10) & 8, 8);
+                Due.due(43, "say of 32", x.say(10), 8);
             }
         }
         Due.due(31, "twelve", x.knowing(32, 0), 12);
@@ -475,13 +489,15 @@ public final class ReckoningTest {
         }
         Due.due(35, "one", x.near(2, 0), 1);
         Due.due(36, "one", x.nearWays(2), 1);
-        Due.due(43, "say of 6", x.say(6) & 32, 0);
+        Due.due(43, "say of 6", x.say(6), 64);
         Due.due(36, "one of 24", x.nearWays(8), 1);
-        Due.due(43, "say of 24", x.say(8) & 32, 32);
+        Due.due(43, "say of 24", x.say(8), 32 + 64);
+        Due.due(36, "one of 6, asked behind", x.nearWays(6), 1);
         Due.due(35, "the first six", x.near(16, 0), 6);
         Due.due(35, "ALIKE", x.near(16, 1), 15);
         Due.due(35, "UNLIKE", x.near(16, 2), 0);
         Due.due(36, "one of 720", x.nearWays(16), 1);
+        unevenNears();
         BlindFiddles y = Due.told(TEXT);
         for (int fiddle = 0; fiddle < 6; fiddle++) {
             y.mark(0, fiddle, 10 * fiddle, 0, false);
@@ -495,6 +511,26 @@ public final class ReckoningTest {
         }
         Due.due(35, "UNLIKE", y.near(18, 2), 15);
         Due.due(36, "all not below the least", y.nearWays(18), 720);
+    }
+
+    /** Ties on one side, so that the ways are not the same from both ends. */
+    private static void unevenNears() {
+        BlindFiddles x = Due.told(TEXT);
+        blind(x, 0, 1, 1, 2);
+        blind(x, 7, 5, 6, 5);
+        Due.due(35, "ALIKE", x.near(6, 1), 0);
+        Due.due(35, "UNLIKE", x.near(6, 2), 1);
+        // 2 with 6 on the third, else -1
+        Due.due(36, "-1 or more", x.nearWays(6), 6);
+        blind(x, 7, 5, 5, 6);
+        Due.due(36, "2 or more", x.nearWays(9), 2);
+        Due.due(36, "-1 or more, asked again", x.nearWays(6), 6);
+        BlindFiddles y = Due.told(TEXT);
+        blind(y, 0, 1, 1, 2, 3);
+        blind(y, 7, 2, 2, 1, 3);
+        Due.due(35, "ALIKE", y.near(8, 1), 3);
+        Due.due(35, "UNLIKE", y.near(8, 2), 2);
+        Due.due(36, "1 or more of -5 .. 5", y.nearWays(8), 10);
     }
 
     private static void beats() {

@@ -182,6 +182,10 @@ public final class SittingTest {
         // a guess is blind: seen is 0 in it
         Due.due(12, "run(2, 4, 4, 7)", x.run(2, 4, 4, 7), 10);
         isFact(x, 33, 1, 1, 1, 0, -1, -1);
+        // just above 0 is old
+        Due.due(12, "run(2, 0, 2, 7)", x.run(2, 0, 2, 7), 10);
+        isFact(x, 43, 1, 1, 1, 0, -1, -1);
+        isFact(x, 49, 1, 1, 0, 1, -1, -1);
     }
 
     private static void runRoom() {
@@ -228,6 +232,8 @@ public final class SittingTest {
         Due.due(13, "loud alone, least", x.touch(4, 0, 0, 0, 2, false), 2);
         Due.due(13, "quick alone", x.touch(5, 0, 0, 0, 2, true), 324);
         Due.due(13, "untouched behind it", x.liking(0, 0, 0, 0, false, 0, 0), 46);
+        Due.due(13, "seen and at a spot ahead of it", x.liking(2, 0, 0, 0, true, 9, 9), 28);
+        Due.due(13, "blind, spot 0, noise 0 behind that", x.touch(2, 0, 0, 0, 3, true), 9);
         for (int i : new int[] {-1, MIN, MAX}) {
             Due.due(13, "law " + i, x.touch(i, 0, 0, 0, 0, true), MIN);
             Due.due(13, "person " + i, x.touch(0, i, 0, 0, 0, true), MIN);
@@ -256,6 +262,9 @@ public final class SittingTest {
                 Due.due(14, "gains(2, 1, " + t + ", " + what + ")", x.gains(2, 1, t, what), 0);
             }
         }
+        BlindFiddles z = Due.told("fiddle a old 1 1 1;player p 1 1 1 1;bow w 0 0 0;law l=bright*(1+seen+spot+noise);");
+        Due.due(14, "seen and at a spot ahead of it", z.liking(0, 0, 0, 0, true, 9, 9), 20);
+        Due.due(14, "blind, spot 0, noise 0", z.gains(0, 0, 3, 0), 3);
         // quick nearer to 0: 7 and 1 (old a: 49 less 16), c and g from 1, e is there
         Due.due(14, "gains(1, 0, 3, 0)", x.gains(1, 0, 3, 0), 2 * (49 - 16));
         Due.due(14, "gains(1, 0, 3, 1)", x.gains(1, 0, 3, 1), 2 * (1 + 1));
