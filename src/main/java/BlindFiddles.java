@@ -1552,21 +1552,21 @@ public final class BlindFiddles {
         }
 
         int ways() {
-            return waysFrom(0, 0, off);
+            return waysFrom(this, 0, 0, off);
         }
 
         /** Ways to give the laters that are not given (bits) to the firsts from one on, with no more off than is left. */
-        private int waysFrom(int at, int given, int left) {
+        private static int waysFrom(Steady it, int at, int given, int left) {
             if (left < 0) {
                 return 0;
             }
-            if (at >= many) {
+            if (at >= it.many) {
                 return 1;
             }
             int ways = 0;
-            for (int i = 0; i < many; i++) {
+            for (int i = 0; i < it.many; i++) {
                 if ((given & 1 << i) == 0) {
-                    ways += waysFrom(at + 1, given | 1 << i, left - Math.abs(firsts[at] - laters[i]));
+                    ways += waysFrom(it, at + 1, given | 1 << i, left - Math.abs(it.firsts[at] - it.laters[i]));
                 }
             }
             return ways;
@@ -1626,18 +1626,18 @@ public final class BlindFiddles {
                 sum += isOld[i] * raised[i];
             }
             // All V have one sum: D is not below just if that of those called old is not.
-            return waysFrom(0, olds, sum);
+            return waysFrom(this, 0, olds, sum);
         }
 
         /** Ways to call so many from one on old, whose V are not below what lacks. */
-        private int waysFrom(int at, int left, int lacks) {
+        private static int waysFrom(Kinds it, int at, int left, int lacks) {
             if (left == 0) {
                 return lacks <= 0 ? 1 : 0;
             }
-            if (many - at < left) {
+            if (it.many - at < left) {
                 return 0;
             }
-            return waysFrom(at + 1, left - 1, lacks - raised[at]) + waysFrom(at + 1, left, lacks);
+            return waysFrom(it, at + 1, left - 1, lacks - it.raised[at]) + waysFrom(it, at + 1, left, lacks);
         }
 
         /** HOW SMALL. */
@@ -1733,24 +1733,24 @@ public final class BlindFiddles {
                 low += Math.min(0, numbers[i]);
                 high += Math.max(0, numbers[i]);
             }
-            return waysFrom(0, 0, low, high);
+            return waysFrom(this, 0, 0, low, high);
         }
 
         /**
          * The sum is not below what it is just if the numbers that are turned have a sum not above 0.
          * Those from one on can bring low .. high to it: often that tells enough.
          */
-        private int waysFrom(int at, int turned, int low, int high) {
+        private static int waysFrom(Turns it, int at, int turned, int low, int high) {
             if (turned + low > 0) {
                 return 0;
             }
-            if (turned + high <= 0 || at >= many) {
-                return 1 << (many - at);
+            if (turned + high <= 0 || at >= it.many) {
+                return 1 << (it.many - at);
             }
-            int number = numbers[at];
+            int number = it.numbers[at];
             int lower = low - Math.min(0, number);
             int higher = high - Math.max(0, number);
-            return waysFrom(at + 1, turned, lower, higher) + waysFrom(at + 1, turned + number, lower, higher);
+            return waysFrom(it, at + 1, turned, lower, higher) + waysFrom(it, at + 1, turned + number, lower, higher);
         }
     }
 
@@ -1798,19 +1798,19 @@ public final class BlindFiddles {
         }
 
         int ways() {
-            return waysFrom(0, 0, alike - unlike);
+            return waysFrom(this, 0, 0, alike - unlike);
         }
 
         /** Ways to give the MEANS that are not given (bits) to the FIDDLES from one on, with what lacks or more. */
-        private int waysFrom(int at, int used, int lacks) {
-            if (at >= many) {
+        private static int waysFrom(NearFar it, int at, int used, int lacks) {
+            if (at >= it.many) {
                 return lacks <= 0 ? 1 : 0;
             }
             int ways = 0;
-            for (int i = 0; i < many; i++) {
+            for (int i = 0; i < it.many; i++) {
                 if ((used & 1 << i) == 0) {
-                    given[at] = i;
-                    ways += waysFrom(at + 1, used | 1 << i, lacks - alikeWithThoseAhead(at));
+                    it.given[at] = i;
+                    ways += waysFrom(it, at + 1, used | 1 << i, lacks - it.alikeWithThoseAhead(at));
                 }
             }
             return ways;

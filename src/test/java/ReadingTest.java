@@ -95,6 +95,8 @@ public final class ReadingTest {
         Due.fault("law l = [1==1];", 0, -1);
         Due.fault("law l = [1= =1];", 1, 10);
         Due.fault("law l = [1===1];", 1, 12);
+        Due.fault("law l = [1==", 1, 12);
+        Due.fault("law l = [1=", 1, 10);
         Due.fault("law l == 1;", 1, 6);
         Due.fault("law l =1;law m=(1)*[1<2]-3+4;", 0, -1);
         for (String word : Oracle.WORDS) {
@@ -324,7 +326,7 @@ public final class ReadingTest {
             Due.due(5, "place() of what is left of " + whole[i], x.place(), places[i]);
         }
         String full = "fiddle a old 1 1 1 barred;fiddle b old 1 1 1;player p 1 1 1 1;hearer q 1 1 1 1;bow w 0 0 0;"
-                + "bow v 0 0 0;law l=bright;law m=1;plan x{sit p with w seen:a,b;sit p with w:b,a;sit p with w:a;}"
+                + "bow v 0 0 0;law l=bright;law m=1;plan x{sit p with w seen:a,b;sit p with w:a,b;sit p with w:a;}"
                 + "plan y{sit p with v:a;}";
         String little = "fiddle a new 1 1 1;player p 1 1 1 1;bow w 0 0 0;law l=7;plan x{sit p with w:a;}";
         for (int i = 0; i < 2; i++) {
@@ -343,8 +345,16 @@ public final class ReadingTest {
             Due.due(9, "liking", x.liking(0, 0, 0, 0, false, 0, 0), 7);
             Due.due(11, "takes", x.takes(0, 0, 7, 0), 1);
             Due.due(12, "run", x.run(0, 0, 0, 7), 2);
+            Due.due(12, "count(5)", x.count(5), 2 * i + 2);
             Due.due(41, "parts", x.parts(0, 0, 0, 7), 0);
         }
+        String apart = "fiddle a new 1 5 1;fiddle b old 5 1 1;player p 1 1 1 1;bow w 0 0 0;law l=bright;law m=loud;";
+        for (int i = 0; i < 2; i++) {
+            Due.tell(x, apart + "plan x{sit p with w:a,b;sit p with w:a,b;}");
+        }
+        Due.tell(x, apart + "plan x{sit p with w:a,b;}");
+        Due.due(41, "parts of the one SITTING", x.parts(0, 0, 1, 7), 1);
+        Due.due(11, "takes of the one SITTING", x.takes(0, 0, 7, -1), 1);
         // A text that ends within brackets, or with FAULTS 3 to 5, leaves nothing for the next.
         Due.due(4, "read()", Due.tell(x, "law l = 1+2*[3+4*((5"), 1);
         Due.due(4, "read()", Due.tell(x, "bow l 99 99 99;bow l 1 1 1;"), 5);

@@ -617,11 +617,13 @@ public final class ReckoningTest {
         x.mark(7, 7, 99, 0, false);
         Due.due(39, "best", x.best(8, false), 2);
         Due.due(39, "worst", x.best(8, true), 1);
+        x.mark(0, 6, 9, 0, false);
+        Due.due(39, "worst behind", x.best(9, true), 6);
         x.mark(0, 0, 0, 0, false);
-        Due.due(39, "worst", x.best(9, true), 0);
+        Due.due(39, "worst", x.best(10, true), 0);
         x.mark(0, 5, 12, 0, false);
-        Due.due(39, "best", x.best(10, false), 5);
-        for (int n : new int[] {-1, 11, MIN, MAX}) {
+        Due.due(39, "best", x.best(11, false), 5);
+        for (int n : new int[] {-1, 12, MIN, MAX}) {
             Due.due(39, "n " + n, x.best(n, false), -1);
             Due.due(39, "n " + n, x.best(n, true), -1);
         }
