@@ -170,6 +170,16 @@ final class TextEdges {
             x.feed(0x20202020, 0x20202020, 0x20202020, 0x20202020, 0x20202020);
         }
         edge.due(x, "back(2000)", 0);
+        // what has gone is not read, not even as the end of a NAME, an INT or a ==
+        String[] texts = {"law lxyzxyzxyz", "law l=12345", "law l==", "law l=1;old", "law l=1;bow w 1 1 1"};
+        int[] goes = {9, 4, 1, 3, 11};
+        int[] places = {5, 7, 6, -1, -1};
+        for (int i = 0; i < texts.length; i++) {
+            Due.feed(x, texts[i]);
+            edge.due(x, "back(" + goes[i] + ")", texts[i].length() - goes[i]);
+            edge.due(x, "read()", places[i] < 0 ? 0 : 1);
+            edge.due(x, "place()", places[i]);
+        }
     }
 
     private static void backTooFar() {
