@@ -204,7 +204,7 @@ public final class BlindFiddles {
             return NOTHING;
         }
         int times = 0;
-        for (int k = 0; k < told.sittings[plan]; k++) {
+        for (int k = 0; k < told.sits(plan); k++) {
             int choice = taste.choice(told, plan, k, law, seed);
             if (fiddle == NONE ? told.isOld(choice) : choice == fiddle) {
                 times++;
@@ -221,7 +221,7 @@ public final class BlindFiddles {
         if (facts.many + coming > FACTS_MOST) {
             return NONE;
         }
-        for (int k = 0; k < told.sittings[plan]; k++) {
+        for (int k = 0; k < told.sits(plan); k++) {
             for (int spot = 0; spot < told.sat(plan, k, SIT_MANY); spot++) {
                 taste.seat(told, plan, k, spot, seed);
                 answer(plan, k, spot, taste.like(told, law), taste.like(told, guess) > 0);
@@ -514,7 +514,7 @@ public final class BlindFiddles {
         int found = NOTHING;
         int way = worst ? -1 : 1;
         for (int fiddle = 0; fiddle < told.fiddles; fiddle++) {
-            if (known.manys[fiddle] > 0 && (found == NOTHING || known.parted(fiddle, found, 0) == way)) {
+            if (known.hasMean(fiddle) && (found == NOTHING || known.parted(fiddle, found) == way)) {
                 found = fiddle;
             }
         }
@@ -550,11 +550,11 @@ public final class BlindFiddles {
         int sittings = 0;
         for (int plan = 0; plan < told.plans; plan++) {
             int unlike = taste.unlike(told, plan, law, other, seed);
-            boolean fewer = unlike == most && told.sittings[plan] < sittings;
+            boolean fewer = unlike == most && told.sits(plan) < sittings;
             if (found == NOTHING || unlike > most || fewer) {
                 found = plan;
                 most = unlike;
-                sittings = told.sittings[plan];
+                sittings = told.sits(plan);
             }
         }
         return found;
@@ -639,7 +639,7 @@ public final class BlindFiddles {
             case 6:
                 return reader.length;
             default:
-                return what >= 10 && told.hasPlan(what - 10) ? told.sittings[what - 10] : NONE;
+                return what >= 10 && told.hasPlan(what - 10) ? told.sits(what - 10) : NONE;
         }
     }
 
@@ -688,7 +688,7 @@ public final class BlindFiddles {
         }
 
         boolean hasSitting(int plan, int k) {
-            return hasPlan(plan) && k >= 0 && k < sittings[plan];
+            return k >= 0 && k < sits(plan);
         }
 
         boolean hasMeeting(int person, int fiddle, int bow) {
@@ -703,19 +703,32 @@ public final class BlindFiddles {
             return hasPerson(person) && personRows[person * ROW] == 0;
         }
 
-        /** What stands in a SITTING's row; the SITTING is there. */
+        /** How many SITTINGS a PLAN has; 0 without the PLAN. */
+        int sits(int plan) {
+            return hasPlan(plan) ? sittings[plan] : 0;
+        }
+
+        /** What stands in a SITTING's row; NONE without it. */
         int sat(int plan, int k, int column) {
+            if (!hasSitting(plan, k) || column < 0 || column >= SIT_ROW) {
+                return NONE;
+            }
             return sitRows[(plan * SITS_MOST + k) * SIT_ROW + column];
         }
 
+        /** Where a LAW's code begins and ends; without the LAW there is none between. */
         int lawStart(int law) {
-            return law == 0 ? 0 : lawEnds[law - 1];
+            return law > 0 && hasLaw(law) ? lawEnds[law - 1] : 0;
+        }
+
+        int lawEnd(int law) {
+            return hasLaw(law) ? lawEnds[law] : 0;
         }
 
         /** How many FACTS a RUN of the PLAN brings. */
         int factsOf(int plan) {
             int coming = 0;
-            for (int k = 0; k < sittings[plan]; k++) {
+            for (int k = 0; k < sits(plan); k++) {
                 int many = sat(plan, k, SIT_MANY);
                 coming += sat(plan, k, SIT_SEEN) == 1 ? many : 2 * many;
             }
@@ -1208,8 +1221,11 @@ public final class BlindFiddles {
         private final int[] vars = new int[VARS];
         private final int[] stack = new int[STACK_MOST];
 
-        /** Puts the VARs of those that meet; all are there. */
+        /** Puts the VARs of those that meet, if all are there. */
         void meet(Told told, int person, int fiddle, int bow) {
+            if (!told.hasMeeting(person, fiddle, bow)) {
+                return;
+            }
             for (int i = 0; i < SOUNDS; i++) {
                 vars[VAR_SOUNDS + i] = told.fiddleRows[fiddle * ROW + 1 + i] + told.bowRows[bow * SOUNDS + i];
             }
@@ -1227,7 +1243,7 @@ public final class BlindFiddles {
             vars[VAR_NOISE] = noise;
         }
 
-        /** Puts all VARs as at a spot of a SITTING; it is there. */
+        /** Puts all VARs as at a spot of a SITTING. */
         void seat(Told told, int plan, int k, int spot, int seed) {
             meet(told, told.sat(plan, k, 0), told.sat(plan, k, SIT_ORDER + spot), told.sat(plan, k, SIT_BOW));
             attend(told.sat(plan, k, SIT_SEEN), spot, noiseOf(seed, 10 * k + spot));
@@ -1244,15 +1260,17 @@ public final class BlindFiddles {
             return mixed ^ (mixed >>> 15);
         }
 
-        /** LIKING by a LAW that is there, with the VARs as they are put. */
+        /** LIKING by a LAW, with the VARs as they are put; 0 without the LAW. */
         int like(Told told, int law) {
-            int end = told.lawEnds[law];
+            int end = told.lawEnd(law);
             int top = 0;
+            stack[0] = 0;
             for (int at = told.lawStart(law); at < end; at++) {
                 int code = told.code[at];
-                boolean pushes = code >= 0 || code <= -WORD;
+                int which = -code - WORD;
+                boolean pushes = code >= 0 || which >= 0 && which < VARS;
                 if (pushes && top < STACK_MOST) {
-                    stack[top] = code >= 0 ? code : vars[-code - WORD];
+                    stack[top] = code >= 0 ? code : vars[which];
                     top++;
                 } else if (!pushes && top >= 2) {
                     top--;
@@ -1279,7 +1297,7 @@ public final class BlindFiddles {
 
         /** A SOUND that the LAW does not name need not be put in all ways. */
         private static int reach(Told told, int law, int sound, int t) {
-            int end = told.lawEnds[law];
+            int end = told.lawEnd(law);
             for (int at = told.lawStart(law); at < end; at++) {
                 if (told.code[at] == -WORD - VAR_SOUNDS - sound) {
                     return t;
@@ -1319,7 +1337,7 @@ public final class BlindFiddles {
             return found;
         }
 
-        /** TAKEN in a SITTING; it and the LAW are there. */
+        /** TAKEN in a SITTING; NONE without it. */
         int choice(Told told, int plan, int k, int law, int seed) {
             int choice = NONE;
             int most = 0;
@@ -1334,10 +1352,10 @@ public final class BlindFiddles {
             return choice;
         }
 
-        /** PARTS; the PLAN and both LAWS are there. */
+        /** PARTS; 0 without the PLAN. */
         int unlike(Told told, int plan, int law, int other, int seed) {
             int unlike = 0;
-            for (int k = 0; k < told.sittings[plan]; k++) {
+            for (int k = 0; k < told.sits(plan); k++) {
                 if (choice(told, plan, k, law, seed) != choice(told, plan, k, other, seed)) {
                     unlike++;
                 }
@@ -1355,8 +1373,11 @@ public final class BlindFiddles {
             return fact >= 0 && fact < many;
         }
 
-        /** What stands in the row of a FACT that is there. */
+        /** What stands in a FACT's row; NONE without it. */
         int of(int fact, int column) {
+            if (!has(fact) || column < 0 || column >= FACT_ROW) {
+                return NONE;
+            }
             return rows[fact * FACT_ROW + column];
         }
 
@@ -1394,11 +1415,12 @@ public final class BlindFiddles {
         /** GUESSES: m, r, u, t, a. */
         final int[] tally = new int[5];
 
+        /** Learns what is KNOWN by an n, which is held to how many FACTS there are. */
         void learn(Told told, Facts facts, int n) {
-            by = n;
+            by = Math.max(0, Math.min(n, facts.many));
             clear();
-            sift(told, facts, n);
-            for (int fact = 0; fact < n; fact++) {
+            sift(told, facts);
+            for (int fact = 0; fact < by; fact++) {
                 if (counts[fact] == 1 && facts.of(fact, 0) == MARK) {
                     learnMark(told, facts, fact);
                 } else if (counts[fact] == 1) {
@@ -1420,12 +1442,14 @@ public final class BlindFiddles {
             Arrays.fill(tally, 0);
         }
 
-        private void sift(Told told, Facts facts, int n) {
-            for (int fact = 0; fact < n; fact++) {
-                if (facts.of(fact, 0) == VOID) {
+        private void sift(Told told, Facts facts) {
+            for (int fact = 0; fact < by; fact++) {
+                int named = facts.of(fact, 1);
+                boolean isVoid = facts.of(fact, 0) == VOID;
+                if (isVoid && facts.has(named)) {
                     // A VOID names a FACT ahead of it, so that one has been looked at.
-                    counts[facts.of(fact, 1)] = 0;
-                } else if (told.hasPerson(facts.of(fact, 1)) && told.hasFiddle(facts.of(fact, 2))) {
+                    counts[named] = 0;
+                } else if (!isVoid && told.hasPerson(named) && told.hasFiddle(facts.of(fact, 2))) {
                     counts[fact] = 1;
                 }
             }
@@ -1441,8 +1465,8 @@ public final class BlindFiddles {
             }
             earlier[pair] = blind[pair];
             blind[pair] = value;
-            if (told.isPlayer(person)) {
-                int spot = facts.of(fact, 4);
+            int spot = facts.of(fact, 4);
+            if (told.isPlayer(person) && spot >= 0 && spot < SPOTS) {
                 spotSums[spot] += value;
                 spotManys[spot]++;
             }
@@ -1469,10 +1493,18 @@ public final class BlindFiddles {
             }
         }
 
-        /** How two MEANS (side 0 players', FIDDLES_MOST hearers') part the FIDDLES: 1, 0 or -1. */
-        int parted(int fiddle, int other, int side) {
-            int one = sums[side + fiddle] * manys[side + other];
-            int two = sums[side + other] * manys[side + fiddle];
+        /** Whether there is a MEAN of a FIDDLE, or FIDDLES_MOST behind it its hearers' MEAN. */
+        boolean hasMean(int mean) {
+            return mean >= 0 && mean < manys.length && manys[mean] > 0;
+        }
+
+        /** 1 if one MEAN is above the other, -1 if below, 0 if alike or not both there. */
+        int parted(int mean, int other) {
+            if (!hasMean(mean) || !hasMean(other)) {
+                return 0;
+            }
+            int one = sums[mean] * manys[other];
+            int two = sums[other] * manys[mean];
             if (one == two) {
                 return 0;
             }
@@ -1484,20 +1516,29 @@ public final class BlindFiddles {
             int sum = 0;
             for (int fact = 0; fact < by; fact++) {
                 if (counts[fact] == 1 && isBlindMark(told, facts, fact) && facts.of(fact, 2) == fiddle) {
-                    int spot = facts.of(fact, 4);
-                    int many = Math.max(1, spotManys[spot]);
-                    sum += 100 * facts.of(fact, 3) - 100 * spotSums[spot] / many;
+                    sum += 100 * facts.of(fact, 3) - spotMean(facts.of(fact, 4));
                 }
             }
             return sum;
+        }
+
+        /** 100 times a spot's sum by how many, rounded towards 0; 0 without any. */
+        private int spotMean(int spot) {
+            if (spot < 0 || spot >= SPOTS || spotManys[spot] == 0) {
+                return 0;
+            }
+            return 100 * spotSums[spot] / spotManys[spot];
         }
 
         private static boolean isBlindMark(Told told, Facts facts, int fact) {
             return facts.of(fact, 0) == MARK && facts.of(fact, 5) == 0 && told.isPlayer(facts.of(fact, 1));
         }
 
-        /** BEATS. */
+        /** BEATS; 0 without both FIDDLES. */
         int above(Told told, int fiddle, int other) {
+            if (!told.hasFiddle(fiddle) || !told.hasFiddle(other)) {
+                return 0;
+            }
             int players = 0;
             for (int person = 0; person < told.people; person++) {
                 int one = blind[person * FIDDLES_MOST + fiddle];
@@ -1512,7 +1553,7 @@ public final class BlindFiddles {
         /** THE WINNER. */
         int beatingAll(Told told) {
             for (int fiddle = 0; fiddle < told.fiddles; fiddle++) {
-                if (manys[fiddle] > 0 && beatsOthers(told, fiddle)) {
+                if (hasMean(fiddle) && beatsOthers(told, fiddle)) {
                     return fiddle;
                 }
             }
@@ -1521,7 +1562,7 @@ public final class BlindFiddles {
 
         private boolean beatsOthers(Told told, int fiddle) {
             for (int other = 0; other < told.fiddles; other++) {
-                if (other != fiddle && manys[other] > 0
+                if (other != fiddle && hasMean(other)
                         && above(told, fiddle, other) <= above(told, other, fiddle)) {
                     return false;
                 }
@@ -1772,7 +1813,7 @@ public final class BlindFiddles {
             alike = 0;
             unlike = 0;
             for (int fiddle = 0; fiddle < told.fiddles && many < MOST; fiddle++) {
-                if (known.manys[fiddle] > 0 && known.manys[FIDDLES_MOST + fiddle] > 0) {
+                if (known.hasMean(fiddle) && known.hasMean(FIDDLES_MOST + fiddle)) {
                     here[many] = fiddle;
                     many++;
                 }
@@ -1785,8 +1826,8 @@ public final class BlindFiddles {
         }
 
         private void gatherTwo(Known known, int i, int j) {
-            int near = known.parted(here[i], here[j], 0);
-            int far = known.parted(here[i], here[j], FIDDLES_MOST);
+            int near = known.parted(here[i], here[j]);
+            int far = known.parted(FIDDLES_MOST + here[i], FIDDLES_MOST + here[j]);
             nears[i * MOST + j] = near;
             fars[i * MOST + j] = far;
             if (i < j && near * far == 1) {
